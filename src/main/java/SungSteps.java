@@ -953,7 +953,7 @@ public final class SungSteps {
 
     /** The fewest minutes in the worst case. Results are coded by threes: 0 not done, 1 passed, 2 failed. */
     private static final class Search {
-        private static final int[] THREES = {1, 3, 9, 27, 81, 243, 729};
+        private static final int[] THREES = {1, 3, 9, 27, 81, 243};
         private static final int UNSEEN = -2;
 
         /* Row d: the odds with d results more than there are; the caller fills row 0. */
@@ -996,14 +996,23 @@ public final class SungSteps {
 
         private int fewestAfter(int code, int done, int depth, int t, boolean passed) {
             int then = code + (passed ? 1 : 2) * THREES[t];
-            if (depth >= MOST_TASKS || !isWithin(then, 0, fewest.length - 1) || trials == null) return NONE;
+            if (depth >= MOST_TASKS || !isWithin(then, 0, fewest.length - 1)) return NONE;
             if (fewest[then] == UNSEEN) {
-                for (int type = 0; type < TYPES; type++) {
-                    odds[depth + 1][type] = odds[depth][type] * trials.percent(t, type, passed);
-                }
+                fillOdds(depth + 1, t, passed);
                 fewest[then] = fewestFrom(then, done | 1 << t, depth + 1);
             }
             return fewest[then];
+        }
+
+        /** Type 0 lacks nothing and the last type lacks all, so these two stand for what all types may do. */
+        private void fillOdds(int depth, int t, boolean passed) {
+            if (!isWithin(depth, 1, MOST_TASKS) || trials == null) return;
+            int able = trials.percent(t, 0, passed), unable = trials.percent(t, TYPES - 1, passed);
+            int parts = trials.parts[t];
+            long[] ahead = odds[depth - 1], row = odds[depth];
+            for (int type = 0; type < TYPES; type++) {
+                row[type] = ahead[type] * ((parts & type) == 0 ? able : unable);
+            }
         }
     }
 

@@ -13,6 +13,7 @@ public final class AgreeTest {
     private final StringBuilder said = new StringBuilder();
     private int wrong = 0;
     private int calls = 0;
+    private boolean spoils = false;
 
     private AgreeTest(long seed) {
         random = new Random(seed);
@@ -46,6 +47,11 @@ public final class AgreeTest {
         return random.nextInt(n + 1);
     }
 
+    /** Mostly one of so many, rarely one that there is not. */
+    private int oneOf(int count) {
+        return random.nextInt(15) == 0 || count <= 0 ? ODD[random.nextInt(ODD.length)] : random.nextInt(count);
+    }
+
     private int oddOr(int value) {
         return random.nextInt(12) == 0 ? ODD[random.nextInt(ODD.length)] : value;
     }
@@ -58,6 +64,9 @@ public final class AgreeTest {
         if (sort == 0) return "" + low;
         if (sort == 1) return "" + high;
         if (sort == 2) return "0" + value;
+        if (sort == 3 && spoils && random.nextInt(8) == 0) return "" + (high + 1);
+        if (sort == 4 && spoils && random.nextInt(8) == 0) return "000" + value;
+        if (sort == 5 && spoils && random.nextInt(8) == 0 && low > 0) return "" + (low - 1);
         return "" + value;
     }
 
@@ -80,6 +89,7 @@ public final class AgreeTest {
         for (int k = 0; k < count; k++) {
             int low = random.nextInt(3) == 0 ? 0 : random.nextInt(37);
             int high = random.nextInt(3) == 0 ? 36 : low + random.nextInt(37 - low);
+            if (spoils && random.nextInt(25) == 0) high = random.nextInt(37);
             boolean fine = random.nextBoolean();
             text.append("singer ").append(KINDS[random.nextInt(8)]).append(' ').append(number(0, 99)).append(' ')
                 .append(fine ? number(30, 70) : number(0, 99)).append(' ').append(fine ? number(0, 20) : number(0, 99)).append(' ')
@@ -103,13 +113,14 @@ public final class AgreeTest {
                 text.append(sign).append(PARTS[part]);
                 sign = ",";
             }
+            if (spoils && set > 0 && random.nextInt(12) == 0) text.append(',').append(PARTS[random.nextInt(4)]);
             text.append(";");
         }
         return text.toString();
     }
 
     private String spoilt(String text) {
-        if (random.nextInt(3) != 0) return text;
+        if (!spoils || random.nextInt(3) != 0) return text;
         StringBuilder then = new StringBuilder(text);
         int times = 1 + random.nextInt(2);
         String signs = " ;,0123456789abenorst\u00e9AZ\t";
@@ -136,34 +147,36 @@ public final class AgreeTest {
         }
     }
 
-    private void tellText() {
-        int sort = random.nextInt(4);
-        String text = spoilt(sort <= 1 ? singersText() : sort == 2 ? tuneText() : tasksText());
-        feedBoth(text);
-        if (random.nextInt(30) == 0) sort = random.nextInt(4);
-        if (sort <= 1) same("singers", x.singers(), y.singers());
-        else if (sort == 2) same("tune", x.tune(), y.tune());
+    private void tellText(int sort) {
+        feedBoth(spoilt(sort == 0 ? singersText() : sort == 1 ? tuneText() : tasksText()));
+        int read = spoils && random.nextInt(30) == 0 ? random.nextInt(3) : sort;
+        if (read == 0) same("singers", x.singers(), y.singers());
+        else if (read == 1) same("tune", x.tune(), y.tune());
         else same("tasks", x.tasks(), y.tasks());
         same("fault", x.fault(), y.fault());
-        if (random.nextBoolean()) tellAll();
+        if (spoils && random.nextBoolean()) tellAll();
     }
 
     private void tellAll() {
         for (int what = -1; what <= 9; what++) same("told " + what, x.told(what), y.told(what));
-        int k = upTo(12);
+        int k = oneOf(y.told(1));
         for (int what = 0; what < 9; what++) same("singer " + k + " " + what, x.singer(k, what), y.singer(k, what));
-        int n = upTo(41);
+        int n = oneOf(y.told(0));
         for (int what = 0; what < 3; what++) same("note " + n + " " + what, x.note(n, what), y.note(n, what));
-        int t = upTo(6);
+        int t = oneOf(y.told(2));
         for (int what = 0; what < 5; what++) same("task " + t + " " + what, x.task(t, what), y.task(t, what));
     }
 
     // ---- the other calls
 
     private void oneMore() {
-        if (calls == 0 || random.nextInt(25) == 0) {
-            int times = calls == 0 ? 3 : 1;
-            for (int k = 0; k < times; k++) tellText();
+        if (calls == 0) {
+            for (int sort = 0; sort < 3; sort++) tellText(sort);
+            spoils = true;
+            return;
+        }
+        if (random.nextInt(60) == 0) {
+            tellText(random.nextInt(3));
             return;
         }
         switch (random.nextInt(7)) {
@@ -178,23 +191,23 @@ public final class AgreeTest {
     }
 
     private void tellOne() {
-        int a = oddOr(upTo(12)), b = oddOr(upTo(8));
+        int b = oddOr(upTo(8)), a = oneOf(y.told(b % 3));
         switch (random.nextInt(6)) {
             case 0: same("told " + b, x.told(b), y.told(b)); break;
-            case 1: same("note " + a + " " + b, x.note(a, b % 3), y.note(a, b % 3)); break;
+            case 1: same("note " + a + " " + b, x.note(a, b & 1), y.note(a, b & 1)); break;
             case 2: same("singer " + a + " " + b, x.singer(a, b), y.singer(a, b)); break;
             case 3: same("task " + a + " " + b, x.task(a, b), y.task(a, b)); break;
             case 4: same("fault", x.fault(), y.fault()); break;
-            default: same("feed " + a, x.feed(a - 2, 0x20), y.feed(a - 2, 0x20)); break;
+            default: if (random.nextInt(9) == 0) same("feed " + a, x.feed(a - 2, 0x20), y.feed(a - 2, 0x20)); break;
         }
     }
 
     private void song() {
-        int a = oddOr(random.nextInt(9)), m = oddOr(random.nextInt(3));
+        int a = oneOf(y.told(1)), m = oddOr(random.nextInt(3)), n = oneOf(y.told(0));
         switch (random.nextInt(8)) {
             case 0: case 1: same("sing " + a + " " + m, x.sing(a, m), y.sing(a, m)); break;
-            case 2: for (int k = 0; k < 8; k++) same("height " + k, x.height(k), y.height(k)); break;
-            case 3: same("height " + a, x.height(a), y.height(a)); break;
+            case 2: for (int k = 0; k < y.told(0); k += 1 + k / 8) same("height " + k, x.height(k), y.height(k)); break;
+            case 3: same("height " + n, x.height(n), y.height(n)); break;
             case 4: same("slid", x.slid(), y.slid()); break;
             case 5: int w = oddOr(random.nextInt(4)); same("score " + w, x.score(w), y.score(w)); break;
             case 6: same("calls", x.calls(), y.calls()); break;
@@ -204,7 +217,7 @@ public final class AgreeTest {
 
     private void whichPart() {
         int type = oddOr(random.nextInt(16)), v = oddOr(random.nextInt(3) == 0 ? 0 : random.nextInt(100));
-        int t = oddOr(random.nextInt(6)), q = oddOr(1 + random.nextInt(100));
+        int t = oneOf(y.told(2)), q = oddOr(1 + random.nextInt(100));
         boolean passed = random.nextBoolean();
         switch (random.nextInt(9)) {
             case 0: same("weigh " + type + " " + v, x.weigh(type, v), y.weigh(type, v)); break;
@@ -215,13 +228,13 @@ public final class AgreeTest {
             case 5: same("next", x.next(), y.next()); break;
             case 6: if (y.told(2) < 5 || random.nextInt(8) == 0) same("left " + q, x.left(q), y.left(q)); break;
             case 7: same("alike " + type, x.alike(type), y.alike(type)); break;
-            default: for (int k = 0; k < 3; k++) same("weigh", x.weigh((type + k) & 15, 0), y.weigh((type + k) & 15, 0)); break;
+            default: int some = random.nextInt(16); for (int k = 0; k < some; k++) same("weigh", x.weigh((type + k) & 15, 0), y.weigh((type + k) & 15, 0)); break;
         }
     }
 
     private void lessons() {
-        int s = oddOr(random.nextInt(9)), part = oddOr(random.nextInt(4)), n = oddOr(1 + random.nextInt(4));
-        int what = oddOr(random.nextInt(5));
+        int s = oneOf(y.told(1)), part = oddOr(random.nextInt(4)), n = oddOr(1 + random.nextInt(4));
+        int what = oddOr(random.nextInt(3) == 0 ? random.nextInt(5) : random.nextInt(Math.max(1, Math.min(4, n) + 1)));
         switch (random.nextInt(5)) {
             case 0: case 1: same("lesson " + s + " " + part, x.lesson(s, part), y.lesson(s, part)); break;
             case 2: same("plan " + s + " " + n + " " + what, x.plan(s, n, what), y.plan(s, n, what)); break;

@@ -129,7 +129,7 @@ public final class BooksTest {
         x.sing(1, 0);
         x.sing(0, 0);
         x.seed(99);
-        x.result(1, false);
+        x.result(1, true);
         x.weigh(4, 1);
         x.weigh(5, 2);
         for (int part = 0; part < 4; part++) x.lesson(2, part);
@@ -189,6 +189,12 @@ public final class BooksTest {
         Check.due("no song", x.told(4), SungSteps.NONE);
         Check.due("no song", x.height(0), SungSteps.NOT);
         Check.due("no song", x.judge(), SungSteps.NOT);
+        x.sing(0, 2);
+        x.keep(0);
+        x.goBack(1);
+        x.goBack(0);
+        Check.due("a song behind none", x.height(2), 1600);
+        Check.due("a song behind none", x.calls(), 0);
         x.sing(1, 2);
         x.keep(1);
         x.sing(0, 2);

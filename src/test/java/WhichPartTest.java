@@ -10,6 +10,7 @@ public final class WhichPartTest {
         nextOfLikeOnes();
         leftByHand();
         leftIsAdaptive();
+        leftOfSixTasks();
         leftRefuses();
         alikeTypes();
         Check.end("WhichPartTest");
@@ -156,12 +157,68 @@ public final class WhichPartTest {
         x.weigh(3, 1);
         x.weigh(1, 0);
         Check.due("the voice is cheaper", x.left(100), 2);
+        // By the ear alone who passes may yet lack the voice; by the voice alone who passes may yet lack the ear.
+        x = with("task 5 0 0 ear;");
+        for (int type = 0; type < 16; type++) x.weigh(type, type == 0 || type == 1 || type == 2 ? 1 : 0);
+        Check.due("never, if it is passed", x.left(100), SungSteps.NONE);
+        x.weigh(0, 0);
+        x.weigh(3, 1);
+        Check.due("never, if it is failed", x.left(100), SungSteps.NONE);
+        x = with("task 30 0 0 range;task 5 0 0 ear;task 4 0 0 voice;");
+        for (int type = 0; type < 16; type++) x.weigh(type, type < 4 ? 1 : 0);
+        Check.due("both, in vain the range", x.left(100), 9);
         // A task with slips never makes sure; the dear one does.
         x = with("task 1 1 0 ear;task 30 0 0 ear;");
         for (int type = 2; type < 16; type++) x.weigh(type, 0);
         Check.due("the dear one is sure", x.left(100), 30);
         // Passed 99 to 0, failed 1 to 100: 99 of a hundred in the worst case.
         Check.due("the cheap one is sure enough", x.left(99), 1);
+    }
+
+    /** The plain search, through all orders and results. */
+    private static int fewest(int[][] tasks, long[] odds, int done, int q) {
+        long all = 0, most = 0;
+        for (long one : odds) {
+            all += one;
+            most = Math.max(most, one);
+        }
+        if (most * 100 >= q * all) return 0;
+        int best = 1000000;
+        for (int t = 0; t < tasks.length; t++) {
+            if ((done >> t & 1) == 1) continue;
+            long[] passed = new long[16], failed = new long[16];
+            for (int type = 0; type < 16; type++) {
+                int passes = (tasks[t][3] & type) == 0 ? 100 - tasks[t][1] : tasks[t][2];
+                passed[type] = odds[type] * passes;
+                failed[type] = odds[type] * (100 - passes);
+            }
+            int worst = Math.max(fewest(tasks, passed, done | 1 << t, q), fewest(tasks, failed, done | 1 << t, q));
+            best = Math.min(best, tasks[t][0] + worst);
+        }
+        return best;
+    }
+
+    private static void leftOfSixTasks() {
+        String[] names = {"ear", "voice", "memory", "range"};
+        int[][] tasks = {{13, 5, 7, 1}, {8, 10, 3, 2}, {11, 0, 9, 4}, {9, 12, 12, 8}, {5, 20, 25, 3}, {4, 30, 15, 12}};
+        StringBuilder text = new StringBuilder();
+        for (int[] task : tasks) {
+            text.append("task ").append(task[0]).append(' ').append(task[1]).append(' ').append(task[2]);
+            String sign = " ";
+            for (int part = 0; part < 4; part++) {
+                if ((task[3] >> part & 1) == 0) continue;
+                text.append(sign).append(names[part]);
+                sign = ",";
+            }
+            text.append(';');
+        }
+        SungSteps x = with(text.toString());
+        long[] weights = {40, 9, 8, 1, 7, 0, 2, 0, 9, 1, 0, 0, 3, 0, 0, 1};
+        for (int type = 0; type < 16; type++) x.weigh(type, (int) weights[type]);
+        for (int q = 1; q <= 100; q += 3) {
+            int minutes = fewest(tasks, weights, 0, q);
+            Check.due("left " + q + " of six", x.left(q), minutes >= 1000000 ? SungSteps.NONE : minutes);
+        }
     }
 
     private static void leftRefuses() {
