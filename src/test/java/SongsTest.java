@@ -8,6 +8,7 @@ public final class SongsTest {
         drifts();
         ears();
         memories();
+        memoryAheadOfEar();
         quietKinds();
         songsWithoutNotes();
         heightRefuses();
@@ -160,6 +161,13 @@ public final class SongsTest {
         heights(x, "memory 4", 1000, 1200, 1400, 1600, 1600, 1800, 2000, 2200, 2400);
         x.sing(5, 2);
         heights(x, "ear 99 hears two steps", 1000, 1205, 1205, 1205, 1205, 1410, 1615, 1615, 1615);
+    }
+
+    /** Steps that the ear does not take drift; past memory, where both rules hold, nothing moves. */
+    private static void memoryAheadOfEar() {
+        SungSteps x = with("note 10;note 11;note 12;note 13;breath;note 14;note 15;note 16;", "singer plain 50 50 0 2 0 36 25;");
+        x.sing(0, 2);
+        heights(x, "memory ahead of ear", 1000, 1005, 1005, 1005, 1010, 1015, 1015);
     }
 
     private static void quietKinds() {
