@@ -3,22 +3,32 @@ import java.nio.charset.StandardCharsets;
 /** What every test of the project uses: answers compared, texts fed, and the end of a test's main. */
 final class Check {
     private static int looked = 0, wrong = 0;
+    private static String where = "";
 
     private Check() {
+    }
+
+    /** What is wrong from here on is printed behind these words. */
+    static void begin(String words) {
+        where = words;
+    }
+
+    static int looked() {
+        return looked;
     }
 
     static void due(String call, long got, long want) {
         looked++;
         if (got == want) return;
         wrong++;
-        System.out.println(call + " answered " + got + ", due is " + want);
+        System.out.println(where + call + " answered " + got + ", due is " + want);
     }
 
     static void holds(String what, boolean so) {
         looked++;
         if (so) return;
         wrong++;
-        System.out.println("does not hold: " + what);
+        System.out.println(where + "does not hold: " + what);
     }
 
     static void feed(SungSteps x, String text) {
@@ -44,6 +54,15 @@ final class Check {
     static int tasks(SungSteps x, String text) {
         feed(x, text);
         return x.tasks();
+    }
+
+    /** A new object with these texts, all of which are right. */
+    static SungSteps with(String tune, String singers, String tasks) {
+        SungSteps x = new SungSteps();
+        holds("tune " + tune, tune(x, tune) >= 0);
+        holds("singers " + singers, singers(x, singers) >= 0);
+        holds("tasks " + tasks, tasks(x, tasks) >= 0);
+        return x;
     }
 
     static String times(String text, int n) {
